@@ -33,7 +33,7 @@ final class Check {
         return type(new HarborLight(), text);
     }
 
-    /** All that can be asked of a light but its text and history, as one string. */
+    /** What can be asked of a light but for its text and history, as one string. */
     static String look(HarborLight x) {
         StringBuilder all = new StringBuilder();
         for (int k = 0; k < 64; k++) {
@@ -57,7 +57,8 @@ final class Check {
         for (int what = 0; what < 9; what++) {
             all.append(" count ").append(x.count(what));
         }
-        for (int index = 0; index < 41; index++) {
+        // three looks at one light stay below the 512 calls that it is made for
+        for (int index : new int[] {0, 1, 39}) {
             for (int what = 0; what < 4; what++) {
                 all.append(" entry ").append(x.entry(index, what));
             }
