@@ -86,10 +86,21 @@ public final class CodeTest {
             C.due("8: lit at " + t, x.code(4), lit.charAt(t % 8) - '0');
             x.advance(1);
         }
+        appendedToTheFirst();
         C.due("8: parts count from the tick 0", x.setCode(3, 3, 1), 6);
         C.due("8: lit at 20 by the new one", x.code(4), 1);
         x.advance(1);
         C.due("8: not lit at 21", x.code(4), 0);
+    }
+
+    private static void appendedToTheFirst() {
+        HarborLight x = new HarborLight();
+        x.setCode(1, 2, 0);
+        String lit = "1100100";
+        for (int t = 0; t < 14; t++) {
+            C.due("8: lit by the appended part at " + t, x.code(4), lit.charAt(t % 7) - '0');
+            x.advance(1);
+        }
     }
 
     private static void shares() {

@@ -88,6 +88,12 @@ public final class LampsTest {
         }
         C.due("13: a new lamp has no use", x.addLamp(0, 10, 10), 0);
         C.due("13: its use", x.lamp(0, 3), 0);
+        for (int place = 1; place < 6; place++) {
+            x.addLamp(0, 10 + place, 10);
+        }
+        C.due("13: last place", x.takeLamp(5), 0);
+        C.due("13: last place is empty", x.lamp(5, 1), -4);
+        C.due("13: the place before it is not", x.lamp(4, 1), 14);
     }
 
     private static void lamp() {

@@ -226,6 +226,8 @@ public final class ShipsTest {
         }
         x.advance(3);
         C.due("24: ticks without a passage", x.seen(1), 2);
+        x.pass(0, 0, 0, 0, 7);
+        C.due("24: seven dark ticks", x.seen(0), 7);
         x.pass(-1, 1, -1, 1, 2);
         int[] then = {0, 0, 0, 2};
         for (int color = 0; color < 4; color++) {

@@ -5,9 +5,12 @@ public final class StatesTest {
     public static void main(String[] args) {
         store();
         storeAgain();
+        logIsStored();
         compare();
+        circleIsCompared();
         compareTicks();
         undo();
+        eachChange();
         fiveStates();
         whatIsNoChange();
         recallCanBeUndone();
@@ -70,6 +73,43 @@ public final class StatesTest {
         x.paint(2, 0, 9);
         C.due("26: the stored state has not changed with it", x.recall(), 5);
         C.due("26: color", x.color(3), 1);
+    }
+
+    /** Here the log gets all its rows anew before it is restored. */
+    private static void logIsStored() {
+        HarborLight x = busy();
+        x.setChanger(0);
+        x.addLamp(0, 1000, 5000);
+        x.setCode(1, 1, 1);
+        x.pass(0, 5, 5, 0, 60);
+        x.store();
+        String before = Check.look(x);
+        x.pass(5, 0, 0, -5, 101);
+        x.undo();
+        C.isTrue("28: log", before.equals(Check.look(x)));
+        x.pass(5, 0, 0, -5, 101);
+        x.recall();
+        C.isTrue("26: log", before.equals(Check.look(x)));
+    }
+
+    private static void circleIsCompared() {
+        HarborLight x = new HarborLight();
+        x.store();
+        x.paint(2, 0, 0);
+        C.due("27: first direction", x.compare(0), 1);
+        x.paint(2, 63, 63);
+        C.due("27: last direction", x.compare(0), 2);
+        x.paint(2, 0, 63);
+        C.due("27: all", x.compare(0), 64);
+        x.setCode(1, 2, 1);
+        x.setCode(3, 4, 0);
+        x.store();
+        x.setCode(2, 1, 1);
+        x.setCode(3, 4, 0);
+        C.due("27: only the first part is different", x.compare(1), 1);
+        x.setCode(1, 2, 1);
+        x.setCode(3, 5, 0);
+        C.due("27: only the last dark ticks are different", x.compare(1), 1);
     }
 
     private static void compare() {
@@ -169,6 +209,39 @@ public final class StatesTest {
         C.due("28: code was", x.code(0), 1);
         C.due("28: empty", x.undo(), -2);
         C.due("28: sectors stay", x.count(0), 2);
+    }
+
+    private static void isUndone(String call, HarborLight x, String before, int answer) {
+        C.isTrue("28: " + call + " is a change", answer >= 0 && !before.equals(Check.look(x)));
+        C.due("28: undo of " + call, x.undo(), 4);
+        C.isTrue("28: as before " + call, before.equals(Check.look(x)));
+    }
+
+    private static void eachChange() {
+        HarborLight x = busy();
+        String before = Check.look(x);
+        isUndone("paint", x, before, x.paint(3, 50, 20));
+        x = busy();
+        isUndone("setCode", x, before, x.setCode(5, 5, 0));
+        x = busy();
+        isUndone("setCode of a new one", x, before, x.setCode(5, 5, 1));
+        x = busy();
+        isUndone("setChanger", x, before, x.setChanger(0));
+        x = busy();
+        isUndone("addLamp", x, before, x.addLamp(1, 5, 5));
+        x = busy();
+        isUndone("takeLamp", x, before, x.takeLamp(1));
+        x = busy();
+        isUndone("set of change", x, before, x.set(0, 50));
+        x = busy();
+        isUndone("set of clear", x, before, x.set(1, 100));
+        x = busy();
+        isUndone("advance", x, before, x.advance(11));
+        x = busy();
+        isUndone("pass", x, before, x.pass(1, 1, -1, -1, 30));
+        x = busy();
+        Check.type(x, "sector dark 0 63;code 5 5;clear 1;change 9;lamp burner 3 3;");
+        isUndone("load", x, before, x.load());
     }
 
     private static void fiveStates() {

@@ -15,6 +15,8 @@ public final class TextsTest {
         order();
         laterItems();
         load();
+        loadColors();
+        oldSigns();
         loadLamps();
         loadIsOneChange();
         C.end();
@@ -73,7 +75,8 @@ public final class TextsTest {
             " clear 5;", "sectorred 1 1;", "sector", "sector;", "sector ;", "sector 1 1;", "sector blue 1 1;",
             "sector  red 1 1;", "sector redd 1 1;", "sector re 1 1;", "sector Red 1 1;", "changer;",
             "changer bulb;", "changer burner;", "changer ;", "changers bulbs;", "lamp bulbs 1 1;", "lamp 1 1;",
-            "lamp burners 1 1;", "lamp,bulb 1 1;", "codes 1 1;", "1 1;", "sector1 1;", "\u007e"}) {
+            "lamp burners 1 1;", "lamp,bulb 1 1;", "codes 1 1;", "1 1;", "sector1 1;", "\u007e", "clearz 5;", "aclear 5;",
+            "dlear 5;", "clead 5;", "sector bark 1 1;", "sector dara 1 1;", "lamp aulb 1 1;", "changer 5;"}) {
             fault("words", text, 0, 1);
         }
         for (String text : new String[] {"sector dark 0 63;", "sector white 0 63;", "sector red 0 63;",
@@ -175,6 +178,28 @@ public final class TextsTest {
         C.due("32: clear", x.count(7), 9);
         C.due("32: change", x.count(6), 8);
         C.due("32: no ticks", x.account(0), 0);
+    }
+
+    private static void loadColors() {
+        HarborLight x = Check.withText("sector dark 0 3;sector red 1 3;sector green 2 3;sector white 3 3;");
+        x.paint(2, 63, 63);
+        C.due("32: items of colors", x.load(), 4);
+        int[] due = {0, 2, 3, 1, 1};
+        for (int k = 0; k < due.length; k++) {
+            C.due("32: color " + k, x.color(k), due[k]);
+        }
+        C.due("32: color 63", x.color(63), 2);
+    }
+
+    private static void oldSigns() {
+        HarborLight x = Check.withText("clear 55;clear 7;");
+        x.clearText();
+        Check.type(x, "clear 55");
+        C.due("31: the end stood in the text before", x.fault(1), 6);
+        C.due("32: not carried out", x.load(), -2);
+        x.type(';');
+        C.due("32: one item", x.load(), 1);
+        C.due("32: clear", x.count(7), 55);
     }
 
     private static void loadLamps() {

@@ -14,6 +14,7 @@ public final class TimeTest {
         wrongTicks();
         lastTick();
         counts();
+        goodLamps();
         untilIdle();
         longUntilIdle();
         C.end();
@@ -177,12 +178,16 @@ public final class TimeTest {
         x.advance(1999);
         C.due("17: too many by one", x.advance(2), -3);
         C.due("17: wrong before too many", x.advance(2001), -1);
+        C.due("19: no change", x.count(9), 5);
         C.due("22: too many by one", x.pass(1, 1, 2, 2, 2), -3);
         C.due("22: wrong before too many", x.pass(10001, 1, 2, 2, 2), -1);
         C.due("22: the last tick", x.pass(1, 1, 2, 2, 1), 1);
         C.due("17: none left", x.advance(1), -3);
         C.due("22: none left", x.pass(1, 1, 2, 2, 1), -3);
         C.due("18: all ticks", x.account(0), 1000000);
+        C.due("28: undone", x.undo(), 4);
+        C.due("17: the last tick", x.advance(1), 0);
+        C.due("18: all ticks again", x.account(0), 1000000);
         C.due("10: beyond the last tick", x.next(0), 1000002);
         C.due("21: still to be asked", x.sees(1, 1), 0);
         C.due("20: still to be asked", x.untilIdle(), 0);
@@ -205,6 +210,19 @@ public final class TimeTest {
         for (int what = 0; what < then.length; what++) {
             C.due("19: count then " + what, x.count(what), then[what]);
         }
+    }
+
+    private static void goodLamps() {
+        HarborLight x = fixed(1, 2, 3);
+        C.due("19: good lamps", x.count(2), 3);
+        x.set(0, 0);
+        x.advance(1);
+        C.due("19: one burnt out", x.count(2), 2);
+        x.advance(1);
+        C.due("19: one used, but good", x.count(2), 2);
+        x.takeLamp(2);
+        C.due("19: one taken out", x.count(2), 1);
+        C.due("19: two lamps", x.count(1), 2);
     }
 
     private static void untilIdle() {
