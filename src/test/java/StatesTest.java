@@ -84,9 +84,12 @@ public final class StatesTest {
         x.pass(0, 5, 5, 0, 60);
         x.store();
         String before = Check.look(x);
+        x.paint(3, 0, 63);
         x.pass(5, 0, 0, -5, 101);
         x.undo();
+        x.undo();
         C.isTrue("28: log", before.equals(Check.look(x)));
+        x.paint(2, 0, 63);
         x.pass(5, 0, 0, -5, 101);
         x.recall();
         C.isTrue("26: log", before.equals(Check.look(x)));
