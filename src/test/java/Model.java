@@ -248,6 +248,10 @@ final class Model {
         return near(x, y) ? where(x, y) : -1;
     }
 
+    int again(int x, int y) {
+        return direction(x, y);
+    }
+
     int setCode(int light, int dark, int isNew) {
         if (!in(light, 1, 60) || !in(dark, 0, 60) || !in(isNew, 0, 1)) {
             return -1;

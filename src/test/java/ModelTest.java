@@ -2,7 +2,10 @@ import java.util.Random;
 
 /** Long runs of mixed calls, always the same ones: the light and the model must answer alike. */
 public final class ModelTest {
-    private static final int RUNS = 1500;
+    private static final int RUNS = 4000;
+    private static final int MOST_CALLS = 512;
+    // a text and what is asked about it, the longest that a turn may take
+    private static final int MOST_CALLS_OF_A_TURN = 50;
     private static final String[] PIECES = {
         "sector", "code", "changer", "lamp", "clear", "change", " dark", " white", " red", " green",
         " bulbs", " burners", " bulb", " burner", ";", ";", ";", " ", " 1", " 0", " 60", " 61", " 63",
@@ -36,6 +39,7 @@ public final class ModelTest {
     }
 
     private void due(String name, long got, long want) {
+        call++;
         check.due("run " + run + " call " + call + " " + name, got, want);
     }
 
@@ -64,7 +68,7 @@ public final class ModelTest {
     }
 
     private void play() {
-        for (call = 0; call < 500; call++) {
+        while (call <= MOST_CALLS - MOST_CALLS_OF_A_TURN) {
             int kind = random.nextInt(12);
             if (kind < 3) {
                 change();
@@ -78,6 +82,7 @@ public final class ModelTest {
                 ask();
             }
         }
+        check.isTrue("run " + run + " keeps to the calls that a light is made for", call <= MOST_CALLS);
     }
 
     private void change() {

@@ -13,6 +13,7 @@ public final class TimeTest {
         lampComesLate();
         wrongTicks();
         lastTick();
+        lastTickOfAPassage();
         counts();
         goodLamps();
         untilIdle();
@@ -170,24 +171,37 @@ public final class TimeTest {
         C.due("19: far", x.count(Integer.MAX_VALUE), -1);
     }
 
-    private static void lastTick() {
+    /** A light at the tick 999999, after 500 of its 512 calls. */
+    private static HarborLight late() {
         HarborLight x = new HarborLight();
         for (int i = 0; i < 499; i++) {
             x.advance(2000);
         }
         x.advance(1999);
+        return x;
+    }
+
+    private static void lastTick() {
+        HarborLight x = late();
         C.due("17: too many by one", x.advance(2), -3);
         C.due("17: wrong before too many", x.advance(2001), -1);
         C.due("19: no change", x.count(9), 5);
+        C.due("17: the last tick", x.advance(1), 0);
+        C.due("17: none left", x.advance(1), -3);
+        C.due("18: all ticks", x.account(0), 1000000);
+        C.due("28: undone", x.undo(), 4);
+        C.due("17: the last tick again", x.advance(1), 0);
+        C.due("18: all ticks again", x.account(0), 1000000);
+    }
+
+    private static void lastTickOfAPassage() {
+        HarborLight x = late();
         C.due("22: too many by one", x.pass(1, 1, 2, 2, 2), -3);
         C.due("22: wrong before too many", x.pass(10001, 1, 2, 2, 2), -1);
         C.due("22: the last tick", x.pass(1, 1, 2, 2, 1), 1);
-        C.due("17: none left", x.advance(1), -3);
         C.due("22: none left", x.pass(1, 1, 2, 2, 1), -3);
+        C.due("17: none left", x.advance(1), -3);
         C.due("18: all ticks", x.account(0), 1000000);
-        C.due("28: undone", x.undo(), 4);
-        C.due("17: the last tick", x.advance(1), 0);
-        C.due("18: all ticks again", x.account(0), 1000000);
         C.due("10: beyond the last tick", x.next(0), 1000002);
         C.due("21: still to be asked", x.sees(1, 1), 0);
         C.due("20: still to be asked", x.untilIdle(), 0);
