@@ -1,7 +1,6 @@
 /**
- * A harbor light: sectors of colors, a flash code, lamps of a changer, ships that pass and see the
- * light, a log of passages, a history of changes, a stored state and texts that describe a light.
- * Arguments are checked here; the classes inside hold the parts of the light and do the work.
+ * A harbor light, as ../shared/DOC.md promises it. Arguments are checked here, so that the classes inside, which hold
+ * the parts of the light, can do their work without refusing any.
  */
 public final class HarborLight {
     public static final int INVALID_ARGUMENT = -1;
@@ -14,22 +13,21 @@ public final class HarborLight {
     private static final int IDLE_SEARCH = 20000;
     private static final int MOST_ADVANCE = 2000;
     private static final int MOST_PASS = 500;
+    private static final int NONE = -1;
 
     private final State now = new State();
     private final State stored = new State();
-    // What would be: calls that only tell work on this copy, so that nothing else changes.
+    // calls that only tell what would be work on this copy, so that nothing else changes
     private final State trial = new State();
     private final History history = new History();
     private final Text text = new Text();
     private boolean isStored;
 
-    /** Creates a light without lamps, at the tick 0. */
     public HarborLight() {
     }
 
     // ---- sectors
 
-    /** Gives the directions from one to another one, clockwise, a color; tells how many change. */
     public int paint(int color, int from, int to) {
         if (isOutside(color, 0, 3) || isOutside(from, 0, 63) || isOutside(to, 0, 63)) {
             return INVALID_ARGUMENT;
@@ -38,7 +36,6 @@ public final class HarborLight {
         return now.circle.give(color, from, to);
     }
 
-    /** Tells the color of a direction. */
     public int color(int direction) {
         if (isOutside(direction, 0, 63)) {
             return INVALID_ARGUMENT;
@@ -46,13 +43,12 @@ public final class HarborLight {
         return now.circle.colorAt(direction);
     }
 
-    /** Tells the begin (0), the length (1) or the color (2) of a sector. */
     public int sector(int sector, int what) {
         if (sector < 0 || isOutside(what, 0, 2)) {
             return INVALID_ARGUMENT;
         }
         int begin = now.circle.beginOf(sector);
-        if (begin < 0) {
+        if (begin == NONE) {
             return NOT_FOUND;
         }
         if (what == 0) {
@@ -61,7 +57,6 @@ public final class HarborLight {
         return what == 1 ? now.circle.lengthFrom(begin) : now.circle.colorAt(begin);
     }
 
-    /** Tells the direction of a place, between the vectors of two neighboring points. */
     public int direction(int x, int y) {
         if (isFar(x) || isFar(y)) {
             return INVALID_ARGUMENT;
@@ -69,7 +64,6 @@ public final class HarborLight {
         return Compass.between(x, y);
     }
 
-    /** Tells the direction of a place, by its quarter of the circle. */
     public int again(int x, int y) {
         if (isFar(x) || isFar(y)) {
             return INVALID_ARGUMENT;
@@ -79,7 +73,6 @@ public final class HarborLight {
 
     // ---- the code
 
-    /** Makes a code of one part, or appends a part; tells the period then. */
     public int setCode(int light, int dark, int isNew) {
         if (isOutside(light, 1, 60) || isOutside(dark, 0, 60) || isOutside(isNew, 0, 1)) {
             return INVALID_ARGUMENT;
@@ -95,7 +88,6 @@ public final class HarborLight {
         return now.flash.period();
     }
 
-    /** Tells the parts (0), the period (1), the light ticks (2), the kind (3), or if it is lit (4). */
     public int code(int what) {
         switch (what) {
             case 0: return now.flash.parts();
@@ -107,12 +99,10 @@ public final class HarborLight {
         }
     }
 
-    /** Tells the bits of the share of light in the code. */
     public long shareBits() {
         return Bits.ofDouble(now.flash.share());
     }
 
-    /** Tells the next tick that is lit, or not lit, by the code. */
     public int next(int lit) {
         if (isOutside(lit, 0, 1)) {
             return INVALID_ARGUMENT;
@@ -128,7 +118,6 @@ public final class HarborLight {
 
     // ---- lamps
 
-    /** Puts another changer in; tells how many lamps were in the one before. */
     public int setChanger(int kind) {
         if (isOutside(kind, 0, 1)) {
             return INVALID_ARGUMENT;
@@ -139,7 +128,6 @@ public final class HarborLight {
         return lamps;
     }
 
-    /** Puts a lamp into the lowest empty place; tells the place. */
     public int addLamp(int kind, int intensity, int life) {
         if (isOutside(kind, 0, 1) || isOutside(intensity, 1, 2000) || isOutside(life, 1, 5000)) {
             return INVALID_ARGUMENT;
@@ -148,7 +136,7 @@ public final class HarborLight {
             return NOT_POSSIBLE;
         }
         int place = now.changer.lowestEmpty();
-        if (place < 0) {
+        if (place == NONE) {
             return LIMIT_REACHED;
         }
         history.keep(now);
@@ -156,7 +144,6 @@ public final class HarborLight {
         return place;
     }
 
-    /** Takes a lamp out; tells its use. */
     public int takeLamp(int place) {
         if (isOutside(place, 0, 5)) {
             return INVALID_ARGUMENT;
@@ -170,7 +157,6 @@ public final class HarborLight {
         return use;
     }
 
-    /** Tells kind (0), intensity (1), life (2), use (3), brightness (4) of a lamp, if burnt out (5). */
     public int lamp(int place, int what) {
         if (isOutside(place, 0, 5) || isOutside(what, 0, 5)) {
             return INVALID_ARGUMENT;
@@ -188,7 +174,6 @@ public final class HarborLight {
         }
     }
 
-    /** Sets change (0) or clear (1); tells the previous value. */
     public int set(int what, int value) {
         if (what == 0 && !isOutside(value, 0, 50)) {
             history.keep(now);
@@ -205,7 +190,6 @@ public final class HarborLight {
         return INVALID_ARGUMENT;
     }
 
-    /** Tells the bits of the range of a color. */
     public int rangeBits(int color) {
         if (isOutside(color, 0, 3)) {
             return INVALID_ARGUMENT;
@@ -215,7 +199,6 @@ public final class HarborLight {
 
     // ---- time
 
-    /** Lets ticks go by; tells how many of them are lit. */
     public int advance(int ticks) {
         if (isOutside(ticks, 1, MOST_ADVANCE)) {
             return INVALID_ARGUMENT;
@@ -233,7 +216,6 @@ public final class HarborLight {
         return lit;
     }
 
-    /** Tells an account since the beginning. */
     public int account(int what) {
         switch (what) {
             case 0: return now.tick;
@@ -248,7 +230,6 @@ public final class HarborLight {
         }
     }
 
-    /** Tells a number of the light, its log, history, text or stored state. */
     public int count(int what) {
         switch (what) {
             case 0: return now.circle.sectors();
@@ -267,7 +248,6 @@ public final class HarborLight {
         }
     }
 
-    /** Tells after how many ticks there is the first idle one. */
     public int untilIdle() {
         trial.become(now);
         for (int i = 0; i < IDLE_SEARCH; i++) {
@@ -280,7 +260,6 @@ public final class HarborLight {
 
     // ---- ships
 
-    /** Tells what color a ship would see in the present tick. */
     public int sees(int x, int y) {
         if (isFar(x) || isFar(y)) {
             return INVALID_ARGUMENT;
@@ -293,7 +272,6 @@ public final class HarborLight {
         return trial.shownAt(x, y, kind);
     }
 
-    /** Lets a ship pass while time goes on; tells how many entries the log gets. */
     public int pass(int x, int y, int toX, int toY, int ticks) {
         if (isFar(x) || isFar(y) || isFar(toX) || isFar(toY) || isOutside(ticks, 1, MOST_PASS)) {
             return INVALID_ARGUMENT;
@@ -304,7 +282,7 @@ public final class HarborLight {
         history.keep(now);
         now.log.beginPassage();
         int before = now.log.entries;
-        int last = -1;
+        int last = NONE;
         for (int i = 0; i < ticks; i++) {
             int shipX = x + Math.floorDiv((toX - x) * i, ticks);
             int shipY = y + Math.floorDiv((toY - y) * i, ticks);
@@ -313,7 +291,6 @@ public final class HarborLight {
         return now.log.entries - before;
     }
 
-    /** Tells tick (0), color (1), direction (2) or passage (3) of an entry, the latest one first. */
     public int entry(int index, int what) {
         if (index < 0 || isOutside(what, 0, 3)) {
             return INVALID_ARGUMENT;
@@ -324,7 +301,6 @@ public final class HarborLight {
         return now.log.valueOf(index, what);
     }
 
-    /** Tells how many ticks of the latest passage showed a color. */
     public int seen(int color) {
         if (isOutside(color, 0, 3)) {
             return INVALID_ARGUMENT;
@@ -337,14 +313,12 @@ public final class HarborLight {
 
     // ---- stored state, undo
 
-    /** Stores everything but the text and the history; tells the present tick. */
     public int store() {
         stored.become(now);
         isStored = true;
         return now.tick;
     }
 
-    /** Makes everything but the text and the history as it was stored; tells the tick then. */
     public int recall() {
         if (!isStored) {
             return NOT_POSSIBLE;
@@ -354,7 +328,6 @@ public final class HarborLight {
         return now.tick;
     }
 
-    /** Compares directions (0), codes (1), places of the changer (2) or ticks (3) with the stored state. */
     public int compare(int what) {
         if (isOutside(what, 0, 3)) {
             return INVALID_ARGUMENT;
@@ -370,7 +343,6 @@ public final class HarborLight {
         }
     }
 
-    /** Restores the latest state of the history; tells how many states are left in it. */
     public int undo() {
         if (history.states == 0) {
             return NOT_POSSIBLE;
@@ -381,7 +353,6 @@ public final class HarborLight {
 
     // ---- texts
 
-    /** Appends a character to the text; tells its length. */
     public int type(int character) {
         if (isOutside(character, 32, 126)) {
             return INVALID_ARGUMENT;
@@ -393,14 +364,12 @@ public final class HarborLight {
         return text.length;
     }
 
-    /** Empties the text; tells the length it had. */
     public int clearText() {
         int length = text.length;
         text.length = 0;
         return length;
     }
 
-    /** Tells the index (0) or the reason (1) of the fault of the text. */
     public int fault(int what) {
         if (isOutside(what, 0, 1)) {
             return INVALID_ARGUMENT;
@@ -412,7 +381,6 @@ public final class HarborLight {
         return what == 0 ? text.faultIndex : text.faultReason;
     }
 
-    /** Carries out the text; tells the number of its items. */
     public int load() {
         trial.become(now);
         if (!text.carryOut(trial)) {
@@ -431,16 +399,14 @@ public final class HarborLight {
         return isOutside(coordinate, -FARTHEST, FARTHEST);
     }
 
-    /** The 64 points around the light and their vectors. */
     private static final class Compass {
         static final int POINTS = 64;
         static final int QUARTER = 16;
-        // s(0) to s(16); the other values follow from these
+        // s(0) to s(16) are enough: the other values are these again, or their negatives
         private static final int[] SINES = {
             0, 98, 195, 290, 383, 471, 556, 634, 707, 773, 831, 882, 924, 957, 981, 995, 1000
         };
 
-        /** The x of the vector of a point. */
         static int east(int point) {
             int turned = point & (POINTS - 1);
             boolean isWest = turned >= 2 * QUARTER;
@@ -452,7 +418,6 @@ public final class HarborLight {
             return isWest ? -SINES[index] : SINES[index];
         }
 
-        /** The y of the vector of a point. */
         static int north(int point) {
             return east(point + QUARTER);
         }
@@ -479,7 +444,6 @@ public final class HarborLight {
             return x < 0 ? 3 * QUARTER + greatestPoint(y, -x) : NOT_FOUND;
         }
 
-        /** The greatest point of the first quarter that a place there is at or behind. */
         private static int greatestPoint(int x, int y) {
             for (int k = QUARTER - 1; k > 0; k--) {
                 if (x * north(k) >= y * east(k)) {
@@ -490,7 +454,6 @@ public final class HarborLight {
         }
     }
 
-    /** The colors of the directions. */
     private static final class Circle {
         private static final int WHITE = 1;
         private final int[] colors = new int[Compass.POINTS];
@@ -533,7 +496,6 @@ public final class HarborLight {
             return begins == 0 ? 1 : begins;
         }
 
-        /** The begin of a sector, or -1 if there are not so many. */
         int beginOf(int sector) {
             int begins = 0;
             for (int k = 0; k < Compass.POINTS; k++) {
@@ -544,7 +506,7 @@ public final class HarborLight {
                     begins++;
                 }
             }
-            return begins == 0 && sector == 0 ? 0 : -1;
+            return begins == 0 && sector == 0 ? 0 : NONE;
         }
 
         int lengthFrom(int begin) {
@@ -570,7 +532,6 @@ public final class HarborLight {
         }
     }
 
-    /** The flash code. */
     private static final class FlashCode {
         static final int MOST_PARTS = 8;
         private static final int FIXED = 0;
@@ -607,7 +568,7 @@ public final class HarborLight {
             return parts >= MOST_PARTS;
         }
 
-        /** Takes all parts away; a part has to be appended then. */
+        // only ahead of append, as a code without parts has no period
         void drop() {
             parts = 0;
             allLight = 0;
@@ -678,7 +639,10 @@ public final class HarborLight {
         }
     }
 
-    /** The changer with its lamps, which are all of its kind; an empty place has the life 0. */
+    /**
+     * The lamps need no kinds of their own, as none that does not fit the changer gets in. An empty place has the
+     * life 0, which no lamp has, so that a place is empty and filled again without a new object.
+     */
     private static final class Changer {
         static final int BURNERS = 1;
         static final int PLACES = 6;
@@ -734,7 +698,6 @@ public final class HarborLight {
             return isPlace(place) ? uses[place] : 0;
         }
 
-        /** The brightness of the lamp at a place, 0 if there is none. */
         int brightnessOf(int place) {
             if (!isPlace(place) || lives[place] < 1) {
                 return 0;
@@ -763,17 +726,15 @@ public final class HarborLight {
             return good;
         }
 
-        /** The lowest empty place, or -1 if there is none. */
         int lowestEmpty() {
             for (int place = 0; place < PLACES; place++) {
                 if (!hasLamp(place)) {
                     return place;
                 }
             }
-            return -1;
+            return NONE;
         }
 
-        /** Begins a change if one is due and there is a lamp to change to; tells if one has begun. */
         boolean beginsChange() {
             if (changeLeft > 0 || canBurn(present)) {
                 return false;
@@ -789,7 +750,6 @@ public final class HarborLight {
             return false;
         }
 
-        /** Spends a tick, after a change may have begun; tells the kind of the tick. */
         int spend(int tick, boolean isLitByCode) {
             if (changeLeft > 0) {
                 changeLeft--;
@@ -826,7 +786,7 @@ public final class HarborLight {
                 && lifeOf(place) == other.lifeOf(place) && useOf(place) == other.useOf(place);
         }
 
-        /** Tells if there is a lamp at the place that is not burnt out (an empty one has no use). */
+        // an empty place has no use and no life, so this needs no test of its own for it
         boolean canBurn(int place) {
             return isPlace(place) && uses[place] < lives[place];
         }
@@ -836,7 +796,6 @@ public final class HarborLight {
         }
     }
 
-    /** The latest entries of all passages, and what the latest passage showed. */
     private static final class Log {
         private static final int MOST_KEPT = 40;
         private static final int COLORS = 4;
@@ -875,7 +834,7 @@ public final class HarborLight {
             return color >= 0 && color < COLORS ? shown[color] : 0;
         }
 
-        /** Adds an entry of the latest passage, in the row of the oldest one if all are taken. */
+        // the rows are used in turn, so that the oldest entry gives way without the others being moved
         void add(int tick, int color, int direction) {
             int row = entries % MOST_KEPT;
             if (row < 0) {
@@ -906,7 +865,7 @@ public final class HarborLight {
         }
     }
 
-    /** Everything but the text, the history and the stored state. */
+    /** All that is recorded, stored and tried stands in one class, so that no copy of it can miss a part. */
     private static final class State {
         static final int LIT = 0;
         static final int UNLIT = 1;
@@ -938,7 +897,6 @@ public final class HarborLight {
             return kind >= 0 && kind < KINDS ? spent[kind] : 0;
         }
 
-        /** Lets one tick go by; tells its kind. */
         int goOn() {
             if (changer.beginsChange()) {
                 changesBegun++;
@@ -951,7 +909,6 @@ public final class HarborLight {
             return kind;
         }
 
-        /** Lets one tick of a passage go by; tells the color that the ship sees. */
         int goOnWithShip(int x, int y, int lastColor) {
             int kind = goOn();
             int color = shownAt(x, y, kind);
@@ -962,7 +919,7 @@ public final class HarborLight {
             return color;
         }
 
-        /** The color that a ship at a place sees in the tick of this kind that has just gone by. */
+        // only behind goOn, as what a ship sees depends on the use at the end of the tick
         int shownAt(int x, int y, int kind) {
             if (kind != LIT || (x == 0 && y == 0)) {
                 return 0;
@@ -991,7 +948,7 @@ public final class HarborLight {
         }
     }
 
-    /** The states before the latest changes, in rows that are used again. */
+    /** The rows are made once and used in turn, as all calls of a run have one room. */
     private static final class History {
         private static final int MOST_STATES = 5;
         private final State[] rows = new State[MOST_STATES];
@@ -1015,7 +972,6 @@ public final class HarborLight {
             }
         }
 
-        /** Makes a state as the latest recorded one, which is removed. */
         void giveBack(State state) {
             int latest = end > 0 ? end - 1 : rows.length - 1;
             if (states < 1 || latest < 0 || latest >= rows.length || rows[latest] == null) {
@@ -1027,12 +983,10 @@ public final class HarborLight {
         }
     }
 
-    /** The text, and the reading of its items. */
     private static final class Text {
         private static final int MOST_SIGNS = 120;
         private static final int MOST_DIGITS = 4;
         private static final int MOST_NUMBERS = 2 * FlashCode.MOST_PARTS;
-        private static final int NONE = -1;
         private static final int NO_FAULT = 0;
         private static final int WRONG_WORD = 1;
         private static final int NUMBER_MISSING = 2;
@@ -1059,7 +1013,6 @@ public final class HarborLight {
             }
         }
 
-        /** Carries out the items until one is not possible; tells if all were. */
         boolean carryOut(State state) {
             at = 0;
             items = 0;
@@ -1181,7 +1134,7 @@ public final class HarborLight {
                 return LAMP_UNFIT;
             }
             int place = state.changer.lowestEmpty();
-            if (place < 0) {
+            if (place == NONE) {
                 return NO_ROOM;
             }
             if (!skips(';')) {
@@ -1209,7 +1162,6 @@ public final class HarborLight {
             return reason;
         }
 
-        /** The reason why an item that ends with this number is not possible, if there is one. */
         private int reasonOf(int value, int least, int most) {
             if (value == NONE) {
                 return NUMBER_MISSING;
@@ -1220,7 +1172,6 @@ public final class HarborLight {
             return skips(';') ? NO_FAULT : END_MISSING;
         }
 
-        /** The number of the color whose name follows a blank, or NONE. */
         private int readColor() {
             if (!skips(' ')) {
                 return NONE;
@@ -1239,7 +1190,6 @@ public final class HarborLight {
             return isWord(begin, "green") ? 3 : NONE;
         }
 
-        /** 0 or 1 if the first or the second word follows a blank, or NONE. */
         private int readEither(String first, String second) {
             if (!skips(' ')) {
                 return NONE;
@@ -1252,7 +1202,6 @@ public final class HarborLight {
             return isWord(begin, second) ? 1 : NONE;
         }
 
-        /** The number that follows a blank, or NONE if the blank or the number is missing. */
         private int readNumber() {
             if (!skips(' ')) {
                 return NONE;
@@ -1281,7 +1230,6 @@ public final class HarborLight {
             return true;
         }
 
-        /** Tells if all that stands from begin to the present place is this word. */
         private boolean isWord(int begin, String word) {
             if (at - begin != word.length()) {
                 return false;
@@ -1294,13 +1242,16 @@ public final class HarborLight {
             return true;
         }
 
-        /** The sign at an index, or the sign 0, which no text holds. */
+        // behind the end it is the sign 0, which no text holds, so that nothing that is looked for stands there
         private char signAt(int index) {
             return index >= 0 && index < length && index < MOST_SIGNS ? signs[index] : (char) 0;
         }
     }
 
-    /** The bits of numbers that are 0 or positive and neither tiny nor endless. */
+    /**
+     * LANGUAGE.md leaves no floatToIntBits and no doubleToLongBits, so the bits are put together here; ranges and
+     * shares are 0 or positive and neither tiny nor endless, so signs and the numbers at the ends need no care.
+     */
     private static final class Bits {
         static int ofFloat(float value) {
             return (int) join((double) value, 127, 23);
@@ -1310,7 +1261,7 @@ public final class HarborLight {
             return join(value, 1023, 52);
         }
 
-        /** The exponent with its bias, in front of that many binary digits behind the leading one. */
+        // the digit 1 that leads is left out of the bits, as every such number has it
         private static long join(double value, int bias, int digits) {
             if (value <= 0.0) {
                 return 0L;
